@@ -392,23 +392,30 @@ public final class FlushProofs {
             return makeChoice(a, makeNot(b), b);
         }
 
-        /** Node at of another store, made here of its parts' images; constants and elements have theirs ahead. */
-        int remake(Nodes other, int at, int[] images) {
-            int first = imageOf(images, other.firsts[at]);
-            int second = imageOf(images, other.seconds[at]);
-            switch (other.kinds[at]) {
-                case APPLICATION:
-                    return makeApplication(other.thirds[at], first, second);
-                case EQUALITY:
-                    return makeEquality(first, second);
-                case NOT:
-                    return makeNot(first);
-                case BOTH:
-                    return makeBoth(first, second);
-                case CHOICE:
-                    return makeChoice(first, second, imageOf(images, other.thirds[at]));
-                default:
-                    return images[at];
+        /** Makes another store's nodes here, of their parts' images; constants and elements have images ahead. */
+        void remakeAll(Nodes other, int[] images) {
+            for (int at = 0; at < other.used && at < images.length; at++) {
+                int first = imageOf(images, other.firsts[at]);
+                int second = imageOf(images, other.seconds[at]);
+                switch (other.kinds[at]) {
+                    case APPLICATION:
+                        images[at] = makeApplication(other.thirds[at], first, second);
+                        break;
+                    case EQUALITY:
+                        images[at] = makeEquality(first, second);
+                        break;
+                    case NOT:
+                        images[at] = makeNot(first);
+                        break;
+                    case BOTH:
+                        images[at] = makeBoth(first, second);
+                        break;
+                    case CHOICE:
+                        images[at] = makeChoice(first, second, imageOf(images, other.thirds[at]));
+                        break;
+                    default:
+                        break;
+                }
             }
         }
 
@@ -536,7 +543,6 @@ public final class FlushProofs {
             Arrays.fill(values, 0);
             elementCount = elements;
             fetch = fetchOfOthers;
-            differing = NONE;
             deepWords = 0;
             deepTruths = 0;
         }
@@ -609,7 +615,12 @@ public final class FlushProofs {
         void askEquation(Core core, int depth, Outcome outcome) {
             outcome.begin(core.elementCount, 1);
             begin(core);
-            goBothWays(core, depth);
+            step(core, oneWay, TRUE);
+            for (int i = 0; i < depth; i++) {
+                step(core, oneWay, FALSE);
+                step(core, otherWay, FALSE);
+            }
+            plainStep(core, otherWay);
             markInvariants();
             for (int e = 0; e < core.elementCount; e++) {
                 if (core.plainNodes[e] != NONE) {
@@ -629,7 +640,8 @@ public final class FlushProofs {
             outcome.begin(core.elementCount, 0);
             begin(core);
             step(core, oneWay, FETCH);
-            substitute(core, oneWay, FETCH);
+            putIn(core, oneWay, FETCH);
+            work.remakeAll(core.nodes, images);
             int behind = images[core.invariants[invariant]];
             markInvariants();
             work.mark(marks, behind);
@@ -646,29 +658,32 @@ public final class FlushProofs {
                 oneWay[e] = work.makeElement(kind, e);
                 otherWay[e] = oneWay[e];
             }
-            substitute(core, oneWay, FETCH);
+            putIn(core, oneWay, FETCH);
+            work.remakeAll(core.nodes, images);
             for (int i = 0; i < core.invariantCount; i++) {
                 question.addInvariant(images[core.invariants[i]]);
             }
         }
 
-        private void goBothWays(Core core, int depth) {
-            step(core, oneWay, TRUE);
-            for (int i = 0; i < depth; i++) {
-                step(core, oneWay, FALSE);
-                step(core, otherWay, FALSE);
-            }
-            plainStep(core, otherWay);
-        }
-
         private void step(Core core, int[] state, int fetch) {
-            substitute(core, state, fetch);
+            putIn(core, state, fetch);
+            work.remakeAll(core.nodes, images);
             takeImages(core, core.nextNodes, state);
         }
 
         private void plainStep(Core core, int[] state) {
-            substitute(core, state, FALSE);
+            putIn(core, state, FALSE);
+            work.remakeAll(core.nodes, images);
             takeImages(core, core.plainNodes, state);
+        }
+
+        private void putIn(Core core, int[] state, int fetch) {
+            images[FALSE] = FALSE;
+            images[TRUE] = TRUE;
+            images[FETCH] = fetch;
+            for (int e = 0; e < core.elementCount; e++) {
+                images[core.elementNodes[e]] = state[e];
+            }
         }
 
         private void takeImages(Core core, int[] told, int[] state) {
@@ -676,19 +691,6 @@ public final class FlushProofs {
                 if (told[e] != NONE) {
                     state[e] = images[told[e]];
                 }
-            }
-        }
-
-        /** Gives each node of the face its image: state's nodes put in for elements, and fetch for FETCH. */
-        private void substitute(Core core, int[] state, int fetch) {
-            images[FALSE] = FALSE;
-            images[TRUE] = TRUE;
-            images[FETCH] = fetch;
-            for (int e = 0; e < core.elementCount; e++) {
-                images[core.elementNodes[e]] = state[e];
-            }
-            for (int at = FETCH + 1; at < core.nodes.used; at++) {
-                images[at] = work.remake(core.nodes, at, images);
             }
         }
 
@@ -986,7 +988,7 @@ public final class FlushProofs {
                 return;
             }
             for (int value = 0; value <= distinct; value++) {
-                long left = withFunctions(given, value, states & statesBelow(leastIndex + 1));
+                long left = withFunctions(given, value, states & statesOfUse(given));
                 if (left != 0) {
                     values[given] = value;
                     planes.setWord(words[given], value);
@@ -997,6 +999,15 @@ public final class FlushProofs {
                     giveNumbers(given + 1, Math.max(distinct, value + 1), left);
                 }
             }
+        }
+
+        /**
+         * Word elements go up: behind a new number of one of them a state must be lesser by its truths than the least
+         * so far. Under other functions alone, the least state may still show a lower claim.
+         */
+        private long statesOfUse(int given) {
+            boolean sameElements = given >= wordElementCount;
+            return statesBelow(sameElements && leastClaim > 0 ? leastIndex + 1 : leastIndex);
         }
 
         /** A function answers the same for the same: the states in which a word can be this value. */
@@ -1033,23 +1044,12 @@ public final class FlushProofs {
                 return;
             }
             int index = Long.bitCount((failing & -failing) - 1L);
-            if (index < leastIndex) {
+            int claim = lowestClaim(index);
+            if (index < leastIndex || (index == leastIndex && claim < leastClaim)) {
                 leastIndex = index;
+                leastClaim = claim;
                 System.arraycopy(values, 0, leastValues, 0, wordElementCount);
-                leastClaim = lowestClaim(index);
-            } else if (index == leastIndex && isLeastState()) {
-                // The same elements under other functions.
-                leastClaim = Math.min(leastClaim, lowestClaim(index));
             }
-        }
-
-        private boolean isLeastState() {
-            for (int i = 0; i < wordElementCount; i++) {
-                if (values[i] != leastValues[i]) {
-                    return false;
-                }
-            }
-            return true;
         }
 
         private int lowestClaim(int index) {

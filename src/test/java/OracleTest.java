@@ -513,7 +513,7 @@ public final class OracleTest {
 
         void question() {
             if (dice.nextInt(3) > 0 || m.invariants.isEmpty()) {
-                int d = dice.nextInt(wild) == 0 ? dice.nextInt(14) - 2 : dice.nextInt(3);
+                int d = dice.nextInt(wild) == 0 ? dice.nextInt(14) - 2 : dice.nextInt(4);
                 compare(seed, "run(" + d + ")", () -> x.run(d), () -> {
                     if (d < 0 || d > 8) throw new IllegalArgumentException();
                     return m.ask(m.deepOfRun(d), d, NONE);
@@ -541,9 +541,11 @@ public final class OracleTest {
         }
 
         void play() {
-            int first = 1 + dice.nextInt(6);
+            boolean large = seed % 4 == 1;
+            int first = 1 + dice.nextInt(large ? 11 : 6);
             for (int i = 0; i < first; i++) addElement();
-            int calls = 10 + dice.nextInt(40);
+            for (int i = 0; large && i < 20; i++) grow();
+            int calls = 10 + dice.nextInt(large ? 80 : 40);
             for (int i = 0; i < calls; i++) {
                 int what = dice.nextInt(20);
                 if (what < 9) grow();
@@ -571,7 +573,7 @@ public final class OracleTest {
         }
 
         void addElement() {
-            if (dice.nextInt(5) > 1) compare(seed, "word()", () -> x.word(), () -> m.element(3));
+            if (dice.nextInt(5) > (seed % 8 == 1 ? 3 : 1)) compare(seed, "word()", () -> x.word(), () -> m.element(3));
             else compare(seed, "truth()", () -> x.truth(), () -> m.element(4));
         }
     }
