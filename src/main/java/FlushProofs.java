@@ -31,14 +31,12 @@ public final class FlushProofs {
     private static final int HOLDS = 1;
     private static final int TOO_LARGE = 2;
 
-    private static final int SMALLEST_ROOM = 256;
-    private static final int ROOM_DOUBLINGS = 5;
-    // What a question makes beyond its steps: constants, elements, and three nodes for each seen element.
-    private static final int ROOM_BESIDE_STEPS = 80;
-    // A store's rows of hashes: powers of two.
-    private static final int MANY_NODES = 1024;
-    private static final int MANY_HEADS = 2048;
-    private static final int FEW_HEADS = 256;
+    // A question makes every node of the face anew at most once as it is, once for each step of both ways (with the
+    // one with a fetch and the plain one), and two nodes for each seen element to tell where the ways differ.
+    private static final int WORK_LIMIT = NODE_LIMIT * (2 * DEPTH_LIMIT + 3) + 2 * ELEMENT_LIMIT;
+    // How many hashes the stores have: powers of two.
+    private static final int FACE_HASHES = 256;
+    private static final int WORK_HASHES = 2048;
 
     // Column b has, for each of 64 states, bit b of that state's number.
     private static final long[] COLUMNS = {
@@ -49,12 +47,12 @@ public final class FlushProofs {
 
     private final Core core;
     private final Outcome outcome;
-    private Prover prover;
+    private final Prover prover;
 
     public FlushProofs() {
         core = new Core();
         outcome = new Outcome();
-        prover = new Prover(SMALLEST_ROOM);
+        prover = new Prover();
     }
 
     public int word() throws UnsupportedOperationException {
@@ -147,7 +145,6 @@ public final class FlushProofs {
         if (depth < 0 || depth > DEPTH_LIMIT) {
             throw new IllegalArgumentException("no such depth");
         }
-        makeRoom(depth);
         prover.askEquation(core, depth, outcome);
         prover.decide(outcome);
         return outcome.answer;
@@ -157,7 +154,6 @@ public final class FlushProofs {
         if (invariant < 0 || invariant >= core.invariantCount) {
             throw new IndexOutOfBoundsException("no such invariant");
         }
-        makeRoom(0);
         prover.askKept(core, invariant, outcome);
         prover.decide(outcome);
         return outcome.answer;
@@ -251,7 +247,7 @@ public final class FlushProofs {
     }
 
     private void requireNoFetch(int at) {
-        if (core.nodes.hasFetch(at)) {
+        if (core.hasFetch(at)) {
             throw new IllegalArgumentException("FETCH must not be in it");
         }
     }
@@ -269,18 +265,6 @@ public final class FlushProofs {
         return made;
     }
 
-    /** Each step makes every node of the face anew once at most, so the room that a depth needs is known ahead. */
-    private void makeRoom(int depth) {
-        int needed = core.nodes.used * (2 * depth + 3) + ROOM_BESIDE_STEPS;
-        int room = SMALLEST_ROOM;
-        for (int doubling = 0; doubling < ROOM_DOUBLINGS && room < needed; doubling++) {
-            room *= 2;
-        }
-        if (room > prover.room()) {
-            prover = new Prover(room);
-        }
-    }
-
     /** Nodes, each once; a node's parts come before it. */
     private static final class Nodes {
         private final int[] kinds;
@@ -288,25 +272,19 @@ public final class FlushProofs {
         private final int[] seconds;
         private final int[] thirds;
         private final boolean[] words;
-        private final boolean[] fetches;
         // Of each hash the latest node with it, plus one (0: none), and of each node the one before it.
         private final int[] heads;
         private final int[] links;
         private int used;
 
-        Nodes(int room) {
+        Nodes(int room, int hashes) {
             kinds = new int[room];
             firsts = new int[room];
             seconds = new int[room];
             thirds = new int[room];
             words = new boolean[room];
-            fetches = new boolean[room];
             links = new int[room];
-            heads = new int[room > MANY_NODES ? MANY_HEADS : FEW_HEADS];
-        }
-
-        int room() {
-            return kinds.length;
+            heads = new int[hashes];
         }
 
         /** Leaves the three constants alone. */
@@ -324,10 +302,6 @@ public final class FlushProofs {
 
         boolean isWord(int at) {
             return at >= 0 && at < used && words[at];
-        }
-
-        boolean hasFetch(int at) {
-            return at >= 0 && at < used && fetches[at];
         }
 
         int makeElement(int kind, int number) {
@@ -419,6 +393,12 @@ public final class FlushProofs {
             }
         }
 
+        void unmark(boolean[] marks) {
+            for (int at = 0; at < used && at < marks.length; at++) {
+                marks[at] = false;
+            }
+        }
+
         /** Marks the parts of all that is marked. */
         void spread(boolean[] marks) {
             for (int at = used - 1; at >= 0; at--) {
@@ -465,9 +445,6 @@ public final class FlushProofs {
             links[at] = heads[hash] - 1;
             heads[hash] = at + 1;
             words[at] = kind == WORD_ELEMENT || kind == APPLICATION || (kind == CHOICE && isWord(second));
-            fetches[at] = kind == FETCH
-                || (kind >= APPLICATION && (hasFetch(first) || hasFetch(second)))
-                || (kind == CHOICE && hasFetch(third));
             return at;
         }
     }
@@ -479,17 +456,26 @@ public final class FlushProofs {
         private final int[] nextNodes;
         private final int[] plainNodes;
         private final int[] invariants;
+        private final boolean[] marks;
         private int elementCount;
         private int seenCount;
         private int invariantCount;
 
         Core() {
-            nodes = new Nodes(NODE_LIMIT);
+            nodes = new Nodes(NODE_LIMIT, FACE_HASHES);
             nodes.reset();
             elementNodes = new int[ELEMENT_LIMIT];
             nextNodes = new int[ELEMENT_LIMIT];
             plainNodes = new int[ELEMENT_LIMIT];
             invariants = new int[INVARIANT_LIMIT];
+            marks = new boolean[NODE_LIMIT];
+        }
+
+        boolean hasFetch(int at) {
+            nodes.unmark(marks);
+            nodes.mark(marks, at);
+            nodes.spread(marks);
+            return marks[FETCH];
         }
 
         int addElement(int kind) {
@@ -598,18 +584,14 @@ public final class FlushProofs {
         private final int[] oneWay;
         private final int[] otherWay;
 
-        Prover(int room) {
-            work = new Nodes(room);
+        Prover() {
+            work = new Nodes(WORK_LIMIT, WORK_HASHES);
             question = new Question();
             search = new Search(work, question);
-            marks = new boolean[room];
+            marks = new boolean[WORK_LIMIT];
             images = new int[NODE_LIMIT];
             oneWay = new int[ELEMENT_LIMIT];
             otherWay = new int[ELEMENT_LIMIT];
-        }
-
-        int room() {
-            return work.room();
         }
 
         void askEquation(Core core, int depth, Outcome outcome) {
@@ -695,9 +677,7 @@ public final class FlushProofs {
         }
 
         private void markInvariants() {
-            for (int at = 0; at < work.used; at++) {
-                marks[at] = false;
-            }
+            work.unmark(marks);
             for (int i = 0; i < question.invariantCount; i++) {
                 work.mark(marks, question.invariants[i]);
             }
@@ -748,9 +728,9 @@ public final class FlushProofs {
 
         Planes(Nodes work) {
             this.work = work;
-            lows = new long[work.room()];
-            mids = new long[work.room()];
-            highs = new long[work.room()];
+            lows = new long[WORK_LIMIT];
+            mids = new long[WORK_LIMIT];
+            highs = new long[WORK_LIMIT];
         }
 
         long truthOf(int at) {
@@ -833,8 +813,8 @@ public final class FlushProofs {
             truths = new int[DEEP_TRUTH_LIMIT];
             words = new int[DEEP_WORD_LIMIT];
             values = new int[DEEP_WORD_LIMIT];
-            levels = new int[work.room()];
-            order = new int[work.room()];
+            levels = new int[WORK_LIMIT];
+            order = new int[WORK_LIMIT];
             starts = new int[DEEP_WORD_LIMIT + 2];
             leastValues = new int[DEEP_WORD_LIMIT];
         }
