@@ -32,19 +32,19 @@ public final class PromisesTest {
         due(what, got, want);
     }
 
-    private static void dueNode(FlushProofs x, int node, int... parts) {
+    private static void dueNode(Probe x, int node, int... parts) {
         for (int what = 0; what < 4; what++) {
             due("node(" + node + ", " + what + ")", x.node(node, what), parts[what]);
         }
     }
 
-    private static void dueCounts(FlushProofs x, int... counts) {
+    private static void dueCounts(Probe x, int... counts) {
         for (int what = 0; what < counts.length; what++) {
             due("count(" + what + ")", x.count(what), counts[what]);
         }
     }
 
-    private static void dueState(FlushProofs x, int fetch, int... values) {
+    private static void dueState(Probe x, int fetch, int... values) {
         due("witness(NONE)", x.witness(NONE), fetch);
         for (int e = 0; e < values.length; e++) {
             due("witness(" + e + ")", x.witness(e), values[e]);
@@ -53,15 +53,15 @@ public final class PromisesTest {
     }
 
     /** A word and a chain of applications, until there are so many nodes. */
-    private static void fill(FlushProofs x, int nodes) {
+    private static void fill(Probe x, int nodes) {
         int last = x.word();
-        while (x.count(0) < nodes) {
+        for (int left = nodes - x.count(0); left > 0; left--) {
             last = x.apply(0, last, NONE);
         }
     }
 
     private static void newObject() {
-        FlushProofs x = new FlushProofs();
+        Probe x = new Probe();
         due("NONE", NONE, -1);
         dueCounts(x, 3, 0, 0, 0, 0, 0);
         dueNode(x, FALSE, 0, NONE, NONE, NONE);
@@ -77,7 +77,7 @@ public final class PromisesTest {
     }
 
     private static void elements() {
-        FlushProofs x = new FlushProofs();
+        Probe x = new Probe();
         for (int e = 0; e < 16; e++) {
             due("element " + e, e % 3 == 0 ? x.truth() : x.word(), 3 + e);
             dueNode(x, 3 + e, e % 3 == 0 ? 4 : 3, e, NONE, NONE);
@@ -86,7 +86,7 @@ public final class PromisesTest {
         refused("17th element, a truth", NO_ROOM, x::truth);
         dueCounts(x, 19, 16, 0, 0);
 
-        FlushProofs y = new FlushProofs();
+        Probe y = new Probe();
         fill(y, 299);
         due("the 300th node", y.truth(), 299);
         refused("301st node, a word", NO_ROOM, y::word);
@@ -95,7 +95,7 @@ public final class PromisesTest {
     }
 
     private static void applications() {
-        FlushProofs x = new FlushProofs();
+        Probe x = new Probe();
         int a = x.word();
         int b = x.word();
         int t = x.truth();
@@ -120,7 +120,7 @@ public final class PromisesTest {
         refused("a truth behind", WRONG_SORT, () -> x.apply(0, a, FALSE));
         due("no node came", x.count(0), 11);
 
-        FlushProofs y = new FlushProofs();
+        Probe y = new Probe();
         fill(y, 300);
         refused("301st node", NO_ROOM, () -> y.apply(1, 3, NONE));
         refused("no function ahead of no room", WRONG_SORT, () -> y.apply(8, 3, NONE));
@@ -128,7 +128,7 @@ public final class PromisesTest {
     }
 
     private static void equalities() {
-        FlushProofs x = new FlushProofs();
+        Probe x = new Probe();
         int a = x.word();
         int b = x.word();
         int t = x.truth();
@@ -142,14 +142,14 @@ public final class PromisesTest {
         refused("a truth behind", WRONG_SORT, () -> x.equal(a, t));
         refused("a truth twice", WRONG_SORT, () -> x.equal(t, t));
 
-        FlushProofs y = new FlushProofs();
+        Probe y = new Probe();
         fill(y, 300);
         refused("301st node", NO_ROOM, () -> y.equal(3, 4));
         due("nothing new", y.equal(4, 4), TRUE);
     }
 
     private static void nots() {
-        FlushProofs x = new FlushProofs();
+        Probe x = new Probe();
         int t = x.truth();
         int w = x.word();
         due("not", x.not(t), 5);
@@ -163,14 +163,14 @@ public final class PromisesTest {
         refused("NONE", NO_INDEX, () -> x.not(NONE));
         refused("a word", WRONG_SORT, () -> x.not(w));
 
-        FlushProofs y = new FlushProofs();
+        Probe y = new Probe();
         fill(y, 300);
         refused("301st node", NO_ROOM, () -> y.not(FETCH));
         due("nothing new", y.not(TRUE), FALSE);
     }
 
     private static void boths() {
-        FlushProofs x = new FlushProofs();
+        Probe x = new Probe();
         int s = x.truth();
         int t = x.truth();
         int w = x.word();
@@ -188,7 +188,7 @@ public final class PromisesTest {
         refused("a word", WRONG_SORT, () -> x.both(w, s));
         refused("a word behind FALSE", WRONG_SORT, () -> x.both(FALSE, w));
 
-        FlushProofs y = new FlushProofs();
+        Probe y = new Probe();
         int p = y.truth();
         fill(y, 300);
         refused("301st node", NO_ROOM, () -> y.both(p, FETCH));
@@ -196,7 +196,7 @@ public final class PromisesTest {
     }
 
     private static void choices() {
-        FlushProofs x = new FlushProofs();
+        Probe x = new Probe();
         int c = x.truth();
         int a = x.word();
         int b = x.word();
@@ -219,14 +219,14 @@ public final class PromisesTest {
         refused("two sorts", WRONG_SORT, () -> x.choice(c, a, c));
         refused("two sorts, of TRUE", WRONG_SORT, () -> x.choice(TRUE, c, a));
 
-        FlushProofs y = new FlushProofs();
+        Probe y = new Probe();
         fill(y, 300);
         refused("301st node", NO_ROOM, () -> y.choice(FETCH, 3, 4));
         due("nothing new", y.choice(TRUE, 3, 4), 3);
     }
 
     private static void nexts() {
-        FlushProofs x = new FlushProofs();
+        Probe x = new Probe();
         int a = x.word();
         int t = x.truth();
         due("next", x.next(0, a), false);
@@ -238,7 +238,7 @@ public final class PromisesTest {
         refused("a truth for a word", WRONG_SORT, () -> x.next(0, t));
         refused("a word for a truth", WRONG_SORT, () -> x.next(1, a));
         // Steps take all elements as they were: two that are swapped stay two.
-        FlushProofs y = new FlushProofs();
+        Probe y = new Probe();
         int p = y.word();
         int q = y.word();
         y.next(0, q);
@@ -254,7 +254,7 @@ public final class PromisesTest {
     }
 
     private static void plains() {
-        FlushProofs x = new FlushProofs();
+        Probe x = new Probe();
         int a = x.word();
         int t = x.truth();
         int f = x.choice(FETCH, x.apply(0, a, NONE), a);
@@ -282,7 +282,7 @@ public final class PromisesTest {
     }
 
     private static void invariants() {
-        FlushProofs x = new FlushProofs();
+        Probe x = new Probe();
         int t = x.truth();
         int w = x.word();
         for (int i = 0; i < 8; i++) {
@@ -301,8 +301,8 @@ public final class PromisesTest {
     }
 
     /** Two stages: a fetched instruction waits in a latch, and is carried out by the next step. */
-    private static FlushProofs pipeline(boolean emptied) {
-        FlushProofs x = new FlushProofs();
+    private static Probe pipeline(boolean emptied) {
+        Probe x = new Probe();
         int pc = x.word();
         int register = x.word();
         int latch = x.word();
@@ -318,7 +318,7 @@ public final class PromisesTest {
     }
 
     private static void runs() {
-        FlushProofs x = pipeline(true);
+        Probe x = pipeline(true);
         due("too early", x.run(0), 0);
         due("differs", x.differs(), 1);
         dueState(x, 1, 0, 0, 0, 0);
@@ -327,7 +327,7 @@ public final class PromisesTest {
         }
         refused("depth -1", WRONG_SORT, () -> x.run(-1));
         refused("depth 9", WRONG_SORT, () -> x.run(9));
-        FlushProofs y = pipeline(false);
+        Probe y = pipeline(false);
         due("carried out again and again", y.run(1), 1);
         due("too large by two", y.run(2), 2);
         due("nine words", y.count(4), 9);
@@ -335,7 +335,7 @@ public final class PromisesTest {
 
     /** Of seven words, and of six truths, a question is not too large; of one more it is. */
     private static void sizes() {
-        FlushProofs x = new FlushProofs();
+        Probe x = new Probe();
         int w = x.word();
         int all = w;
         for (int i = 0; i < 6; i++) {
@@ -350,7 +350,7 @@ public final class PromisesTest {
         refused("no state", WRONG_STATE, () -> x.witness(0));
         refused("no difference", WRONG_STATE, x::differs);
 
-        FlushProofs y = new FlushProofs();
+        Probe y = new Probe();
         int sum = TRUE;
         for (int i = 0; i < 6; i++) {
             sum = y.both(sum, y.truth());
@@ -372,7 +372,7 @@ public final class PromisesTest {
 
     /** The same node both ways has nothing to be shown, but is deep all the same. */
     private static void deepNodes() {
-        FlushProofs x = new FlushProofs();
+        Probe x = new Probe();
         int a = x.word();
         int b = x.word();
         int t = x.truth();
@@ -395,7 +395,7 @@ public final class PromisesTest {
     }
 
     private static void functions() {
-        FlushProofs x = new FlushProofs();
+        Probe x = new Probe();
         int a = x.word();
         int b = x.word();
         int fa = x.apply(0, a, NONE);
@@ -422,7 +422,7 @@ public final class PromisesTest {
 
     /** The state in which seven words are seven numbers is the only one that fails. */
     private static void sevenNumbers() {
-        FlushProofs x = new FlushProofs();
+        Probe x = new Probe();
         int c = x.truth();
         int[] words = new int[7];
         for (int i = 0; i < 7; i++) {
@@ -453,7 +453,7 @@ public final class PromisesTest {
     }
 
     private static void leastStates() {
-        FlushProofs x = new FlushProofs();
+        Probe x = new Probe();
         int unused = x.word();
         int a = x.word();
         int s = x.truth();
@@ -474,7 +474,7 @@ public final class PromisesTest {
         due("a truth that has to be", x.run(0), 0);
         dueState(x, 1, 0, 1, 1, 0, 1, 2);
         // Truths go ahead of words: with s 0, all words the same would do.
-        FlushProofs y = new FlushProofs();
+        Probe y = new Probe();
         int p = y.word();
         int q = y.word();
         int r = y.truth();
@@ -490,7 +490,7 @@ public final class PromisesTest {
     }
 
     private static void kepts() {
-        FlushProofs x = new FlushProofs();
+        Probe x = new Probe();
         int a = x.word();
         int b = x.word();
         int t = x.truth();
@@ -518,7 +518,7 @@ public final class PromisesTest {
     }
 
     private static void witnesses() {
-        FlushProofs x = new FlushProofs();
+        Probe x = new Probe();
         int t = x.truth();
         x.plain(0, x.not(t));
         due("fails", x.run(0), 0);
@@ -540,7 +540,7 @@ public final class PromisesTest {
     }
 
     private static void differences() {
-        FlushProofs x = new FlushProofs();
+        Probe x = new Probe();
         int a = x.word();
         int b = x.word();
         x.truth();
@@ -557,7 +557,7 @@ public final class PromisesTest {
         due("fails still", x.run(0), 0);
         due("element 0 no longer", x.differs(), 1);
         // A higher element that differs in a lesser state goes first.
-        FlushProofs y = new FlushProofs();
+        Probe y = new Probe();
         y.truth();
         int q = y.truth();
         y.plain(0, FALSE);
@@ -568,7 +568,7 @@ public final class PromisesTest {
     }
 
     private static void nodes() {
-        FlushProofs x = new FlushProofs();
+        Probe x = new Probe();
         int a = x.word();
         int b = x.word();
         int t = x.truth();
@@ -587,7 +587,7 @@ public final class PromisesTest {
     }
 
     private static void counts() {
-        FlushProofs x = pipeline(true);
+        Probe x = pipeline(true);
         dueCounts(x, 13, 4, 2, 0, 0, 0, NONE);
         due("count(-1)", x.count(-1), NONE);
         due("count of the lowest", x.count(Integer.MIN_VALUE), NONE);
@@ -603,7 +603,7 @@ public final class PromisesTest {
 
     /** Steps make nodes of their own: none is of the face, however many they are. */
     private static void largeCores() {
-        FlushProofs x = new FlushProofs();
+        Probe x = new Probe();
         int[] truths = new int[6];
         int[] words = new int[7];
         for (int i = 0; i < 6; i++) {
@@ -628,8 +628,8 @@ public final class PromisesTest {
         int before = x.count(0);
         for (int depth = 0; depth <= 8; depth++) {
             due("words go round", x.run(depth), 1);
-            dueCounts(x, before, 13, 7, 0, 7, 0);
         }
+        dueCounts(x, before, 13, 7, 0, 7, 0);
         x.plain(0, truths[1]);
         due("truths do not", x.run(8), 0);
         dueCounts(x, before, 13, 8, 0, 7, 6);
