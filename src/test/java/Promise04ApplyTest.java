@@ -49,6 +49,22 @@ final class Promise04ApplyTest extends Checks {
         due("nodes", x.count(0), 8);
     }
 
+    static void promise4EveryFunctionOfEveryArgumentsIsAnother() {
+        Probe x = new Probe();
+        int[] words = words(x, 6);
+        int due = 9;
+        for (int f = 0; f <= 7; f++) {
+            for (int i = 0; i < 36; i++) {
+                due("function " + f, x.apply(f, words[i / 6], words[i % 6]), due);
+                due++;
+            }
+        }
+        due("nodes", x.count(0), 297);
+        for (int i = 0; i < 36; i++) {
+            due("again", x.apply(5, words[i / 6], words[i % 6]), 9 + 5 * 36 + i);
+        }
+    }
+
     static void promise4ArgumentsAreNodesThatThereAre() {
         Probe x = new Probe();
         int a = x.word();

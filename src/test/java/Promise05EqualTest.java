@@ -14,6 +14,20 @@ final class Promise05EqualTest extends Checks {
         dueCounts(x, 8, 3);
     }
 
+    static void promise5EveryPairIsAnother() {
+        Probe x = new Probe();
+        int[] words = words(x, 16);
+        int due = 19;
+        for (int i = 0; i < 16; i++) {
+            for (int j = 0; j < i; j++) {
+                due("a pair", x.equal(words[i], words[j]), due);
+                due("either way", x.equal(words[j], words[i]), due);
+                due++;
+            }
+        }
+        due("nodes", x.count(0), 19 + 120);
+    }
+
     static void promise5ANodeWithItselfIsTrue() {
         Probe x = new Probe();
         for (int node : wordNodes(x)) {

@@ -39,6 +39,20 @@ final class Promise06NotTest extends Checks {
         due("nodes", x.count(0), 7);
     }
 
+    /** A not has the parts that an element of that number has: they are two nodes all the same. */
+    static void promise6NotsOfAllElementsAreOthers() {
+        Probe x = new Probe();
+        int[] truths = truths(x, 16);
+        for (int i = 0; i < 16; i++) {
+            due("not of " + truths[i], x.not(truths[i]), 19 + i);
+        }
+        for (int i = 0; i < 16; i++) {
+            due("not of its not", x.not(19 + i), truths[i]);
+            dueNode(x, truths[i], 4, i, NONE, NONE);
+            dueNode(x, 19 + i, 7, truths[i], NONE, NONE);
+        }
+    }
+
     static void promise6EveryTruthNodeIsTaken() {
         Probe x = new Probe();
         for (int node : truthNodes(x)) {

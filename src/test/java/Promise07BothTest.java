@@ -54,6 +54,20 @@ final class Promise07BothTest extends Checks {
         due("nodes", x.count(0), 7);
     }
 
+    static void promise7EveryPairIsAnother() {
+        Probe x = new Probe();
+        int[] truths = truths(x, 16);
+        int due = 19;
+        for (int i = 0; i < 16; i++) {
+            for (int j = 0; j < i; j++) {
+                due("a pair", x.both(truths[i], truths[j]), due);
+                due("either way", x.both(truths[j], truths[i]), due);
+                due++;
+            }
+        }
+        due("nodes", x.count(0), 19 + 120);
+    }
+
     static void promise7EveryTruthNodeIsTaken() {
         Probe x = new Probe();
         int s = x.truth();

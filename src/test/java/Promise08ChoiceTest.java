@@ -64,6 +64,24 @@ final class Promise08ChoiceTest extends Checks {
         due("nodes", x.count(0), 9);
     }
 
+    static void promise8EveryChoiceOfOthersIsAnother() {
+        Probe x = new Probe();
+        int[] words = words(x, 8);
+        int[] truths = truths(x, 5);
+        int due = 16;
+        for (int c = 0; c < 5; c++) {
+            for (int i = 0; i < 64; i++) {
+                if (i / 8 != i % 8) {
+                    due("a choice", x.choice(truths[c], words[i / 8], words[i % 8]), due);
+                    due++;
+                }
+            }
+        }
+        due("nodes", x.count(0), 16 + 5 * 56);
+        due("the first again", x.choice(truths[0], words[0], words[1]), 16);
+        due("the last again", x.choice(truths[4], words[7], words[6]), 295);
+    }
+
     static void promise8EveryTruthNodeIsTakenToChooseBy() {
         Probe x = new Probe();
         int a = x.word();

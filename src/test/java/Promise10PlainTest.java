@@ -6,6 +6,7 @@ final class Promise10PlainTest extends Checks {
         int b = x.word();
         due("the first", x.plain(0, b), false);
         due("the second", x.plain(0, a), true);
+        due("the same again", x.plain(0, a), true);
         due("seen", x.count(2), 1);
         due("another's first", x.plain(1, b), false);
         due("seen", x.count(2), 2);

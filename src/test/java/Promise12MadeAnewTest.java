@@ -177,9 +177,14 @@ final class Promise12MadeAnewTest extends Checks {
         dueBehindAStep(x, "a node and its not are deep", node, 0, 1);
         due("though they are never both 1", x.differs(), SEEN);
         int chosen = x.choice(at(R), at(P), at(Q));
+        int chosenOf = x.choice(at(S), chosen, at(R));
+        int not = x.choice(at(S), chosen, x.not(at(R)));
         x.next(P, TRUE);
         x.next(Q, FALSE);
-        dueBehindAStep(x, "TRUE, else FALSE", chosen, 0, 1);
+        dueBehindAStep(x, "TRUE, else FALSE, is not what it is chosen by", chosenOf, 0, 2);
+        x.next(P, FALSE);
+        x.next(Q, TRUE);
+        dueBehindAStep(x, "FALSE, else TRUE, is not its not", not, 0, 2);
     }
 
     public static void main(String[] args) {

@@ -432,6 +432,10 @@ final class Promise12RunTest extends Checks {
         due("the same", x.run(0), FAILS);
         x.next(2, x.not(x.equal(x.apply(0, a, a), x.apply(0, a, b))));
         due("the same of two", x.run(0), FAILS);
+        x.next(2, x.equal(x.apply(0, a, a), x.apply(0, a, b)));
+        due("another second argument", x.run(0), FAILS);
+        x.next(2, x.equal(x.apply(0, a, a), x.apply(0, b, a)));
+        due("another first argument", x.run(0), FAILS);
     }
 
     public static void main(String[] args) {

@@ -273,6 +273,40 @@ final class Promise14WitnessTest extends Checks {
         dueState(x, 1, 0, 0, 0, 1, 0, 0, 1, 0);
     }
 
+    static void promise14WhatIsNoLongerDeepIsZero() {
+        Probe x = new Probe();
+        int t = x.truth();
+        int a = x.word();
+        int b = x.word();
+        x.truth();
+        x.next(3, FALSE);
+        x.plain(3, x.both(t, x.not(x.equal(a, b))));
+        due("run(0)", x.run(0), FAILS);
+        dueState(x, 1, 1, 0, 1, 0);
+        x.plain(3, TRUE);
+        due("run(0)", x.run(0), FAILS);
+        dueDeep(x, 0, 0);
+        dueState(x, 1, 0, 0, 0, 0);
+    }
+
+    /** A lower element that differs in a greater state does not make it the least. */
+    static void promise14TheLeastStateGoesAheadOfTheLowestElement() {
+        Probe x = new Probe();
+        int a = x.word();
+        int b = x.word();
+        truths(x, 2);
+        int same = x.equal(a, b);
+        x.next(2, TRUE);
+        x.plain(2, same);
+        x.next(3, FALSE);
+        x.plain(3, same);
+        due("run(0)", x.run(0), FAILS);
+        dueState(x, 1, 0, 0, 0, 0);
+        x.invariant(x.not(same));
+        due("run(0)", x.run(0), FAILS);
+        dueState(x, 1, 0, 1, 0, 0);
+    }
+
     static void promise14WhatIsDeepAndMakesNoDifferenceIsAsLowAsItCanBe() {
         Probe x = new Probe();
         int[] words = words(x, 3);

@@ -101,6 +101,24 @@ final class Promise15DiffersTest extends Checks {
         due("differs()", x.differs(), 0);
     }
 
+    static void promise15ItDiffersInTheLeastStateOfWords() {
+        Probe x = new Probe();
+        int a = x.word();
+        int b = x.word();
+        truths(x, 2);
+        int same = x.equal(a, b);
+        // Element 2 differs where a and b are two, element 3 where they are one.
+        x.next(2, TRUE);
+        x.plain(2, same);
+        x.next(3, FALSE);
+        x.plain(3, same);
+        due("run(0)", x.run(0), FAILS);
+        due("differs()", x.differs(), 3);
+        x.invariant(x.not(same));
+        due("run(0)", x.run(0), FAILS);
+        due("differs()", x.differs(), 2);
+    }
+
     static void promise15ItDiffersForSomeFunctions() {
         Probe x = new Probe();
         int a = x.word();

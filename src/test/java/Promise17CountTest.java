@@ -38,6 +38,7 @@ final class Promise17CountTest extends Checks {
         x.equal(b, a);
         x.equal(a, a);
         x.not(x.not(t));
+        x.not(t);
         x.both(t, FETCH);
         x.both(FETCH, t);
         x.both(t, TRUE);
