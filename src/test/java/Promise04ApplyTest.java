@@ -65,6 +65,17 @@ final class Promise04ApplyTest extends Checks {
         }
     }
 
+    static void promise4ArgumentsFarApartMakeOthers() {
+        for (int place = 1; place <= 2; place++) {
+            Probe x = new Probe();
+            int a = x.word();
+            fill(x, a, 150);
+            for (int n = 4; n < 150; n++) {
+                due("of node " + n, place == 1 ? x.apply(0, n, a) : x.apply(0, a, n), 146 + n);
+            }
+        }
+    }
+
     static void promise4ArgumentsAreNodesThatThereAre() {
         Probe x = new Probe();
         int a = x.word();

@@ -28,6 +28,15 @@ final class Promise05EqualTest extends Checks {
         due("nodes", x.count(0), 19 + 120);
     }
 
+    static void promise5NodesFarApartMakeOthers() {
+        Probe x = new Probe();
+        int a = x.word();
+        fill(x, a, 150);
+        for (int n = 4; n < 150; n++) {
+            due("with node " + n, x.equal(n, a), 146 + n);
+        }
+    }
+
     static void promise5ANodeWithItselfIsTrue() {
         Probe x = new Probe();
         for (int node : wordNodes(x)) {

@@ -68,6 +68,19 @@ final class Promise07BothTest extends Checks {
         due("nodes", x.count(0), 19 + 120);
     }
 
+    static void promise7NodesFarApartMakeOthers() {
+        Probe x = new Probe();
+        int t = x.truth();
+        int last = FETCH;
+        for (int n = 4; n < 150; n++) {
+            last = x.choice(last, t, FALSE);
+        }
+        due("the last node", last, 149);
+        for (int n = 4; n < 150; n++) {
+            due("with node " + n, x.both(n, t), 146 + n);
+        }
+    }
+
     static void promise7EveryTruthNodeIsTaken() {
         Probe x = new Probe();
         int s = x.truth();

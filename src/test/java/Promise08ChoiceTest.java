@@ -82,6 +82,17 @@ final class Promise08ChoiceTest extends Checks {
         due("the last again", x.choice(truths[4], words[7], words[6]), 295);
     }
 
+    static void promise8NodesFarApartMakeOthers() {
+        for (int place = 1; place <= 2; place++) {
+            Probe x = new Probe();
+            int a = x.word();
+            fill(x, a, 150);
+            for (int n = 4; n < 150; n++) {
+                due("of node " + n, place == 1 ? x.choice(FETCH, n, a) : x.choice(FETCH, a, n), 146 + n);
+            }
+        }
+    }
+
     static void promise8EveryTruthNodeIsTakenToChooseBy() {
         Probe x = new Probe();
         int a = x.word();

@@ -149,6 +149,24 @@ final class Promise17CountTest extends Checks {
         dueDeep(x, 1 + 296, 0);
     }
 
+    /** Each of nine steps makes 147 choices of the same two and a third one that is always another. */
+    static void promise17ThousandsOfChoicesAreCountedEachOnce() {
+        Probe x = new Probe();
+        int t = x.truth();
+        int a = x.word();
+        int last = x.word();
+        for (int i = 0; i < 147; i++) {
+            last = x.choice(t, a, x.apply(0, last, NONE));
+        }
+        due("the last node", last, 299);
+        x.next(2, last);
+        x.plain(2, last);
+        for (int depth = 0; depth <= 8; depth++) {
+            due("run(" + depth + ")", x.run(depth), TOO_LARGE);
+            dueDeep(x, 2 + (depth + 1) * 147, 1);
+        }
+    }
+
     public static void main(String[] args) {
         playAll(Promise17CountTest.class);
     }
