@@ -46,6 +46,8 @@ public final class FaceTest {
         List<String> wrong = new ArrayList<>();
         Class<?> face = FlushProofs.class;
         if (!Modifier.isPublic(face.getModifiers()) || !Modifier.isFinal(face.getModifiers())) wrong.add("the class");
+        if (!face.getPackageName().isEmpty()) wrong.add("the package " + face.getPackageName());
+        if (face.getSuperclass() != Object.class || face.getInterfaces().length > 0) wrong.add("what the class is of");
         TreeSet<String> publics = new TreeSet<>();
         TreeSet<String> names = new TreeSet<>();
         for (Method m : face.getDeclaredMethods()) {
@@ -62,12 +64,17 @@ public final class FaceTest {
         if (made.length != 1 || made[0].getParameterCount() != 0 || !Modifier.isPublic(made[0].getModifiers())) {
             wrong.add("constructors: " + Arrays.toString(made));
         }
+        boolean found = false;
         for (Field f : face.getDeclaredFields()) {
             boolean none = f.getName().equals("NONE");
             if (!none && !Modifier.isPrivate(f.getModifiers())) wrong.add("field " + f.getName());
-            if (none && !Modifier.toString(f.getModifiers()).equals("public static final")) wrong.add("NONE");
+            if (none && !(Modifier.toString(f.getModifiers()) + " " + f.getType()).equals("public static final int")) {
+                wrong.add("NONE");
+            }
+            found |= none;
             if (Modifier.isStatic(f.getModifiers()) && !Modifier.isFinal(f.getModifiers())) wrong.add(f.getName());
         }
+        if (!found) wrong.add("no NONE");
         for (Class<?> c : face.getDeclaredClasses()) {
             if (Modifier.isPublic(c.getModifiers()) || !Modifier.isStatic(c.getModifiers())) wrong.add(c.getName());
         }

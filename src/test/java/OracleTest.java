@@ -460,9 +460,14 @@ public final class OracleTest {
             }
         }
 
+        /** A number at an edge of those from 0 to ahead of end, or far from them. */
+        int wildNumber(int end) {
+            int[] numbers = {NONE, -2, end, end + 1, end - 1, 0, 300, Integer.MIN_VALUE, Integer.MAX_VALUE};
+            return numbers[dice.nextInt(numbers.length)];
+        }
+
         int node() {
-            if (dice.nextInt(wild * 2) == 0) return dice.nextInt(3) == 0 ? -1 - dice.nextInt(2) : m.face.size() + dice.nextInt(2);
-            return dice.nextInt(m.face.size());
+            return dice.nextInt(wild * 2) == 0 ? wildNumber(m.face.size()) : dice.nextInt(m.face.size());
         }
 
         int sorted(boolean word) {
@@ -474,7 +479,7 @@ public final class OracleTest {
         }
 
         int element() {
-            return dice.nextInt(wild) == 0 ? dice.nextInt(19) - 2 : dice.nextInt(Math.max(1, m.elements.size()));
+            return dice.nextInt(wild) == 0 ? wildNumber(m.elements.size()) : dice.nextInt(Math.max(1, m.elements.size()));
         }
 
         boolean isWord(int element) {
@@ -484,7 +489,7 @@ public final class OracleTest {
         void grow() {
             int kind = dice.nextInt(11);
             if (kind < 3) {
-                int f = dice.nextInt(wild) == 0 ? dice.nextInt(12) - 2 : dice.nextInt(2);
+                int f = dice.nextInt(wild) == 0 ? wildNumber(8) : dice.nextInt(2);
                 int a = sorted(true);
                 int b = dice.nextInt(2) == 0 ? NONE : sorted(true);
                 compare("apply(" + f + "," + a + "," + b + ")", () -> x.apply(f, a, b), () -> m.apply(f, a, b));
@@ -520,13 +525,13 @@ public final class OracleTest {
 
         void question() {
             if (dice.nextInt(3) > 0 || m.invariants.isEmpty()) {
-                int d = dice.nextInt(wild) == 0 ? dice.nextInt(14) - 2 : dice.nextInt(4);
+                int d = dice.nextInt(wild) == 0 ? wildNumber(9) : dice.nextInt(dice.nextInt(4) == 0 ? 9 : 4);
                 compare("run(" + d + ")", () -> x.run(d), () -> {
                     if (d < 0 || d > 8) throw new IllegalArgumentException();
                     return m.ask(m.deepOfRun(d), d, NONE);
                 });
             } else {
-                int i = dice.nextInt(wild) == 0 ? dice.nextInt(12) - 2 : dice.nextInt(m.invariants.size());
+                int i = dice.nextInt(wild) == 0 ? wildNumber(m.invariants.size()) : dice.nextInt(m.invariants.size());
                 compare("kept(" + i + ")", () -> x.kept(i), () -> {
                     if (i < 0 || i >= m.invariants.size()) throw new IndexOutOfBoundsException();
                     return m.ask(m.deepOfKept(i), 0, i);
@@ -545,6 +550,9 @@ public final class OracleTest {
                 int w = what;
                 compare("count(" + w + ")", () -> x.count(w), () -> m.count(w));
             }
+            int far = wildNumber(m.elements.size());
+            compare("witness(" + far + ")", () -> x.witness(far), () -> m.witness(far));
+            compare("count(" + far + ")", () -> x.count(far), () -> m.count(far));
         }
 
         void play() {
@@ -566,7 +574,7 @@ public final class OracleTest {
                     if (dice.nextInt(4) == 0) addElement();
                 } else if (what < 17) {
                     int n = node();
-                    int w = dice.nextInt(6) - 1;
+                    int w = dice.nextInt(wild) == 0 ? wildNumber(4) : dice.nextInt(6) - 1;
                     compare("node(" + n + "," + w + ")", () -> x.node(n, w), () -> m.node(n, w));
                 } else question();
             }

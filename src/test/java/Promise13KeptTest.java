@@ -225,6 +225,37 @@ final class Promise13KeptTest extends Checks {
         dueDeep(x, 8, 1);
     }
 
+    static void promise13AQuestionMakesNoNodesOfTheFace() {
+        Probe x = new Probe();
+        int a = x.word();
+        int b = x.word();
+        x.next(0, x.apply(0, a, NONE));
+        x.next(1, x.apply(0, b, b));
+        due("the invariant", x.invariant(x.equal(a, b)), 0);
+        due("kept(0)", x.kept(0), FAILS);
+        dueCounts(x, 8, 2, 0, 1, 4, 0);
+        refused(x, "a node that came so", NO_INDEX, () -> x.node(8, 0));
+        due("the next node that comes", x.equal(5, 6), 8);
+        dueNode(x, 8, 6, 5, 6, NONE);
+    }
+
+    /** Behind the step the functions are those that they are ahead of it. */
+    static void promise13FunctionsAreTheSameAheadOfTheStepAndBehindIt() {
+        Probe x = new Probe();
+        int a = x.word();
+        int f = x.apply(0, a, NONE);
+        x.next(0, f);
+        x.invariant(x.equal(x.apply(0, f, NONE), f));
+        due("f(f(a)) is f(a): so is f(f(f(a))) what f(f(a)) is", x.kept(0), HOLDS);
+        dueDeep(x, 4, 0);
+        x.next(0, x.choice(FETCH, x.apply(1, a, NONE), f));
+        due("with a fetch it is another function's", x.kept(0), FAILS);
+        dueState(x, 1, 0);
+        x.next(0, x.choice(FETCH, f, x.apply(1, a, NONE)));
+        due("without one it is another function's", x.kept(0), FAILS);
+        dueState(x, 0, 0);
+    }
+
     static void promise13AFullObjectIsAsked() {
         Probe x = new Probe();
         int[] truths = truths(x, 5);
